@@ -992,19 +992,20 @@ public final class WheelSkips {
             leastBreak = NOT;
             greatestBreak = NOT;
             manyBreaks = 0;
-            int last = 0;
-            for (int v = 0; v <= LAST_BREAK_TRIED; v = last + 1) {
-                wheels.setBreak(0, v);
-                nights.skipNight = NONE;
-                boolean right = firstWrong(true) == NOT;
-                // Every later break up to the first night that skipped for this one goes the same way.
-                last = nights.skipNight == NONE ? LAST_BREAK_TRIED : nights.skipNight;
-                last = Math.max(v, Math.min(last, LAST_BREAK_TRIED));
-                if (right) {
-                    if (leastBreak == NOT) leastBreak = v;
-                    greatestBreak = last;
-                    manyBreaks += last - v + 1;
+            boolean right = false;
+            int alikeUpTo = NONE;
+            for (int v = 0; v <= LAST_BREAK_TRIED; v++) {
+                if (v > alikeUpTo) {
+                    wheels.setBreak(0, v);
+                    nights.skipNight = NONE;
+                    right = firstWrong(true) == NOT;
+                    // All goes the same way for every later break up to the first night that skipped.
+                    alikeUpTo = nights.skipNight == NONE ? LAST_BREAK_TRIED : nights.skipNight;
                 }
+                if (!right) continue;
+                if (leastBreak == NOT) leastBreak = v;
+                greatestBreak = v;
+                manyBreaks++;
             }
             wheels.setBreak(0, before);
         }
