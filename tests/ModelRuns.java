@@ -318,6 +318,7 @@ public final class ModelRuns {
                 case 4: return same("redo()", 29, real.redo(), model.redo());
                 case 5: {
                     int v = dice.oneIn(4) ? dice.around(0, 9999) : dice.around(0, 60);
+                    if (model.is(w) && dice.oneIn(4)) v = model.wheels.get(w).broke;
                     return same("broke(" + w + ", " + v + ")", 4, real.broke(w, v), model.broke(w, v));
                 }
                 default: {
@@ -744,6 +745,7 @@ public final class ModelRuns {
         }
 
         private void change(int w, int p, int before, int after) {
+            if (before == after) return;
             Change c = new Change();
             c.wheel = w;
             c.place = p;

@@ -294,6 +294,10 @@ public final class Promises {
         due("broke(1, 0)", x.broke(1, 0), 9999);
         path(x, 0, "124130");
         due("count(4)", x.count(4), 3);
+        due("the same again", x.broke(0, 3), 3);
+        due("and the same", x.broke(1, 0), 0);
+        due("are no changes", x.count(4), 3);
+        due("of(0, 3)", x.of(0, 3), 3);
         due("without wheels", new WheelSkips().broke(0, 0), BAD);
     }
 
@@ -315,7 +319,7 @@ public final class Promises {
         due("its neighbour", x.of(1, 101), 's');
         due("count(4)", x.count(4), 13);
         due("the same again", x.tooth(1, 2, '9'), '9');
-        due("is a change too", x.count(4), 14);
+        due("is no change", x.count(4), 13);
         x.on(1);
         x.tooth(0, 1, '5');
         x.on(3);
@@ -1034,6 +1038,52 @@ public final class Promises {
         due("6 was the oldest", y.of(0, 3), 6);
         dueAll("a wrong call is no change", BAD, y.tooth(0, 2, 'w'), y.broke(0, -1));
         due("so it may be done again", y.redo(), 39);
+        undoingNoChange();
+        undoingNoChangeWhenFull();
+    }
+
+    private static void undoingNoChange() {
+        WheelSkips x = with("ws", "www");
+        due("BROKE is 0 at first", x.broke(0, 0), 0);
+        due("the tooth is s at first", x.tooth(0, 1, 's'), 's');
+        due("no change", x.count(4), 0);
+        due("none", x.undo(), STATE);
+        x.broke(0, 300);
+        due("broke(0, 300)", x.broke(0, 300), 300);
+        due("one change", x.count(4), 1);
+        due("undo()", x.undo(), 0);
+        due("BROKE of 0", x.of(0, 3), 0);
+        due("as it was: broke(0, 0)", x.broke(0, 0), 0);
+        due("as it was: tooth", x.tooth(1, 2, 'w'), 'w');
+        due("none came behind: redo()", x.redo(), 0);
+        due("BROKE of 0", x.of(0, 3), 300);
+        due("on the other wheel 300 is a change", x.broke(1, 300), 0);
+        due("two changes", x.count(4), 2);
+        x.tooth(0, 0, '7');
+        due("tooth", x.tooth(0, 0, '7'), '7');
+        due("three changes", x.count(4), 3);
+        x.tooth(0, 0, 'w');
+        due("there and back are two", x.count(4), 4);
+        x.undo();
+        x.undo();
+        due("the tooth", x.of(0, 100), 'w');
+        due("as it was: tooth", x.tooth(0, 0, 'w'), 'w');
+        due("as it was: broke", x.broke(1, 300), 300);
+        due("redo()", x.redo(), 1);
+        due("the tooth", x.of(0, 100), '7');
+        due("as it is now", x.tooth(0, 0, '7'), '7');
+        due("redo()", x.redo(), 0);
+        due("none to do again", x.redo(), STATE);
+    }
+
+    private static void undoingNoChangeWhenFull() {
+        WheelSkips x = with("ww");
+        for (int i = 1; i <= 40; i++) x.broke(0, i);
+        due("as it was", x.broke(0, 40), 40);
+        due("as it was", x.tooth(0, 1, 'w'), 'w');
+        due("40 changes", x.count(4), 40);
+        for (int i = 39; i >= 0; i--) due("undo()", x.undo(), i);
+        due("the oldest was still kept", x.of(0, 3), 0);
     }
 
     private static void bodies() {

@@ -1091,7 +1091,9 @@ public final class WheelSkips {
             return i >= 0 && i < afters.length ? afters[i] : 0;
         }
 
+        /** Keeps a change; what is as it was is none, and leaves what may be done again too. */
         void add(int wheel, int place, int before, int after) {
+            if (before == after) return;
             if (done >= MOST_CHANGES) dropOldest();
             write(done, wheel, place, before, after);
             done++;
