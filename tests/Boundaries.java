@@ -618,7 +618,6 @@ public final class Boundaries {
         fault(8, "1-((((((-1))))))");
     }
 
-
     static void p04WhatIsClosedIsOpenNoMore() {
         says("are open at once.");
         lawsStand("((((((1))))))+((((((1))))))", "((((((1))))))?((((((1))))));((((((1))))))", "!!!!!!1-!!!!!!1", "1-------1",
@@ -1334,6 +1333,7 @@ public final class Boundaries {
         due("a next, b now", x.truth(100), 2);
         x.on(1);
         due("a now, b next", x.truth(102), 1);
+        due("now is night 6", on(frosty("t<10", "fw"), 6).truth(1), 4);
         changesNothing(RICH, "truth(2)", y -> y.truth(2));
     }
 
